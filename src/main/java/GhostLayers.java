@@ -1611,7 +1611,8 @@ public final class GhostLayers {
                 return false;
             }
             for (int index = 0; index < word.length(); index++) {
-                if (signAt(tokenStart + index) != word.charAt(index)) {
+                int place = tokenStart + index;
+                if (place < 0 || place >= TEXT_ROOM || text[place] != word.charAt(index)) {
                     return false;
                 }
             }
