@@ -296,6 +296,25 @@ public final class PromisesTest {
             client(0, 9) = 0
             """;
 
+    private static final String P07_RESTORED = """
+            save(0) = void
+            addClient(3) = 0
+            trace("read 0 7 to 9;write 0 9 1;read 0 9;read 0 7;") = 6
+            shape(2, 2) = 3
+            trace("read 0 7;read 0 17;read 0 27;read 0 7;") = 4
+            client(0, 8) = 1
+            restore(0) = void
+            addClient(2) = 0
+            client(0, 0) = 2
+            client(0, 3) = 0
+            client(0, 4) = -1
+            client(0, 5) = 0
+            client(0, 6) = 0
+            client(0, 7) = 0
+            client(0, 8) = 0
+            client(0, 9) = 0
+            """;
+
     private static final String P08 = """
             setWeight(0, 1) = throws.IndexOutOfBoundsException
             addClient(4) = 0
@@ -828,9 +847,57 @@ public final class PromisesTest {
             list(2) = 30 10
             write(0, 40, 4) = 1
             count(13) = 11
+            block(40, 3) = 0
             count(20) = 1
             list(2) = 5 30
             count(12) = 3
+            """;
+
+    private static final String P16_EDGES = """
+            addClient(1) = 0
+            set(1, 0) = 8
+            write(0, 0, 1) = 1
+            block(0, 6) = 1
+            count(13) = 1
+            write(0, 199, 2) = 1
+            count(13) = 0
+            set(1, 40) = 0
+            write(0, 0, 3) = 0
+            block(0, 2) = 3
+            block(0, 3) = 0
+            block(0, 4) = 3
+            write(0, 199, 4) = 0
+            rank(0) = 0
+            rank(199) = 1
+            order(0) = 0
+            order(1) = 199
+            oldest() = 0
+            ages(1) = 1
+            stale(0) = 2
+            stale(1) = 1
+            differing() = 2
+            count(12) = 2
+            longest(1) = 1
+            between(1, 0, 0) = 1
+            between(1, 199, 199) = 1
+            ownedAt(0, 1, 1) = 0
+            wouldBe(0, 0, 0) = 0
+            wouldBe(0, 199, 0) = 0
+            ahead(0, 0, 1, 1, 0) = 1
+            ahead(0, 199, 1, 1, 0) = 1
+            toScan(0, 0) = 4
+            forget(0) = true
+            forget(199) = true
+            block(0, 3) = -1
+            block(0, 4) = -1
+            block(199, 2) = -1
+            count(12) = 0
+            write(0, 0, 3) = 0
+            shape(2, 2) = 1
+            block(0, 0) = -1
+            block(0, 2) = -1
+            block(0, 3) = -1
+            block(0, 6) = 3
             """;
 
     private static final String P16_LEAVING = """
@@ -1351,6 +1418,46 @@ public final class PromisesTest {
             count(5) = 6
             """;
 
+    private static final String P34_35_LATER = """
+            addClient(1) = 0
+            shape(2, 2) = 0
+            set(0, 2) = 4
+            trace("read 0 10 to 13;write 0 50 1;flush 1;read 0 50;read 0 12;") = 7
+            list(0) = 12
+            list(1) = 50
+            list(2) = 10 13
+            list(3) = 10
+            count(14) = 1
+            count(15) = 1
+            count(16) = 5
+            count(19) = 1
+            count(20) = 1
+            count(21) = 1
+            count(22) = 3
+            wouldBe(0, 13, 0) = 1
+            wouldBe(0, 13, 1) = 1
+            wouldBe(0, 14, 1) = 0
+            wouldBe(0, 12, 3) = -1
+            wouldBe(0, 70, 3) = 12
+            wouldBe(0, 70, 4) = 13
+            wouldBe(0, 13, 4) = -1
+            wouldBe(0, 70, 5) = 0
+            ahead(0, 70, 1, 1, 0) = 0
+            ahead(0, 70, 1, 1, 1) = 0
+            ahead(0, 70, 1, 1, 2) = 1
+            ahead(0, 70, 1, 1, 3) = 1
+            ahead(0, 70, 1, 1, 4) = 0
+            ahead(0, 70, 1, 1, 5) = 0
+            ahead(0, 70, 1, 1, 6) = 0
+            ahead(0, 12, 2, 1, 0) = 1
+            ahead(0, 12, 2, 1, 1) = 1
+            ahead(0, 12, 2, 1, 2) = 0
+            ahead(0, 12, 2, 1, 3) = 0
+            ahead(0, 12, 2, 1, 6) = 1
+            ahead(0, 13, 1, 1, 6) = 1
+            ahead(0, 10, 1, 1, 5) = 1
+            """;
+
     private static final String P35 = """
             ahead(0, 0, 1, 1, 0) = throws.IndexOutOfBoundsException
             addClient(1) = 0
@@ -1419,6 +1526,12 @@ public final class PromisesTest {
             bestLength(0, 0, 12, 2) = 3
             bestLength(0, 0, 16, 2) = 7
             count(0) = 4
+            shape(16, 2) = 0
+            trace("read 0 100 to 116;") = 17
+            bestLength(0, 117, 4, 2) = 20
+            bestLength(0, 117, 3, 2) = 19
+            bestLength(0, 0, 1, 4) = 2
+            bestLength(0, 0, 19, 2) = 17
             """;
 
     // ---- 37 to 41: output, undo, saved states
@@ -1624,12 +1737,12 @@ public final class PromisesTest {
 
     public static void main(String[] args) {
         String[][] runs = {{"1", P01}, {"2", P02}, {"3", P03}, {"4", P04}, {"4 (LIMIT)", P04_LIMIT},
-            {"5, 6 (latest)", P05_06_LATEST}, {"7", P07}, {"7 (again)", P07_AGAIN}, {"8", P08}, {"9", P09}, {"10", P10},
+            {"5, 6 (latest)", P05_06_LATEST}, {"7", P07}, {"7 (again)", P07_AGAIN}, {"7 (restored)", P07_RESTORED}, {"8", P08}, {"9", P09}, {"10", P10},
             {"accesses", ACCESSES}, {"targets", TARGETS}, {"target down", TARGET_DOWN}, {"scans", SCANS},
             {"shares", SHARES}, {"11", P11}, {"12", P12}, {"13", P13}, {"14", P14}, {"15", P15}, {"16", P16},
-            {"16 (leaving)", P16_LEAVING}, {"17", P17}, {"18", P18}, {"19", P19}, {"20", P20}, {"21", P21},
+            {"16 (leaving)", P16_LEAVING}, {"16 (edges)", P16_EDGES}, {"17", P17}, {"18", P18}, {"19", P19}, {"20", P20}, {"21", P21},
             {"22", P22}, {"23", P23}, {"24", P24}, {"25", P25}, {"26", P26}, {"27", P27}, {"28", P28}, {"29", P29},
-            {"30", P30}, {"31", P31}, {"32", P32}, {"33", P33}, {"34", P34}, {"35", P35}, {"36", P36},
+            {"30", P30}, {"31", P31}, {"32", P32}, {"33", P33}, {"34", P34}, {"34, 35 (later)", P34_35_LATER}, {"35", P35}, {"36", P36},
             {"37, 38", P37_38}, {"37 (long)", P37_LONG}, {"39", P39}, {"39 (ring)", P39_RING}, {"40, 41", P40_41}};
         for (String[] run : runs) {
             startAfresh();
