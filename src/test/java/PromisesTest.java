@@ -94,6 +94,18 @@ public final class PromisesTest {
             text("read") = 4
             truncateText(0) = 0
             runTrace() = 0
+            text("flush 12") = 8
+            truncateText(7) = 7
+            runTrace() = -1
+            errorPosition() = 7
+            text("flushx") = 6
+            truncateText(5) = 5
+            runTrace() = -1
+            errorPosition() = 5
+            text("read; ;") = 7
+            truncateText(4) = 4
+            runTrace() = -1
+            errorPosition() = 4
             """;
 
     private static final String P04 = """
@@ -176,6 +188,12 @@ public final class PromisesTest {
         {"reads 0 5;", "1", "0"},
         {"rea 0 5;", "1", "0"},
         {"readx", "1", "0"},
+        {"readz 0 5;", "1", "0"},
+        {"areaz", "1", "0"},
+        {"tead 0 5;", "1", "0"},
+        {"read 0 xyz;", "1", "7"},
+        {"write 0 5 a;", "1", "10"},
+        {"flush x;", "1", "6"},
         {"  to 0 5;", "1", "2"},
         {"5 read 0 5;", "1", "0"},
         {"read read 0 5;", "1", "5"},
@@ -546,6 +564,23 @@ public final class PromisesTest {
             list(1) = 50
             """;
 
+    private static final String TARGET_RATIO = """
+            addClient(1) = 0
+            shape(4, 24) = 0
+            trace("read 0 10;read 0 10;read 0 30;read 0 30;read 0 50;read 0 50;read 0 70;read 0 70;") = 8
+            trace("read 0 90;read 0 90;read 0 110;read 0 130;read 0 150;") = 5
+            list(0) = 150
+            list(1) = 90 70 50
+            list(3) = 130 110
+            list(4) = 30 10
+            read(0, 110) = 550
+            count(4) = 1
+            list(1) = 110 90 70
+            list(4) = 50 30 10
+            read(0, 130) = 650
+            count(4) = 4
+            """;
+
     private static final String SCANS = """
             addClient(1) = 0
             addClient(1) = 1
@@ -628,6 +663,33 @@ public final class PromisesTest {
             victim(false) = 30
             """;
 
+    private static final String SHARES_EXACT = """
+            addClient(1) = 0
+            addClient(1) = 1
+            addClient(1) = 2
+            shape(3, 5) = 0
+            trace("read 0 10;read 1 20;read 1 30;") = 3
+            client(0, 10) = 0
+            client(1, 10) = 1
+            victim(false) = 20
+            read(2, 40) = 200
+            list(0) = 40 30 10
+            """;
+
+    private static final String SHARES_FREQUENT = """
+            addClient(1) = 0
+            addClient(1) = 1
+            shape(3, 5) = 0
+            trace("read 1 10;read 0 20;read 0 20;read 0 30;") = 4
+            list(0) = 30 10
+            client(0, 10) = 1
+            victim(false) = 30
+            read(1, 40) = 200
+            list(0) = 40 10
+            list(2) = 30
+            block(30, 3) = 0
+            """;
+
     // ---- 11 to 18: what there is, acts
 
     private static final String P11 = """
@@ -676,6 +738,10 @@ public final class PromisesTest {
             read(0, 10) = 3
             count(18) = 1
             count(4) = 0
+            undo() = 7
+            count(18) = 0
+            count(17) = 1
+            count(4) = 1
             """;
 
     private static final String P12 = """
@@ -721,6 +787,11 @@ public final class PromisesTest {
             read(1, 0) = 0
             client(1, 3) = 1
             client(1, 4) = 0
+            read(1, 0) = 0
+            client(1, 7) = 2
+            undo() = 7
+            client(1, 7) = 1
+            client(1, 5) = 6
             """;
 
     private static final String P13 = """
@@ -1456,6 +1527,10 @@ public final class PromisesTest {
             ahead(0, 12, 2, 1, 6) = 1
             ahead(0, 13, 1, 1, 6) = 1
             ahead(0, 10, 1, 1, 5) = 1
+            read(0, 70) = 350
+            list(2) = 12 10
+            wouldBe(0, 70, 3) = -1
+            wouldBe(0, 70, 4) = -1
             """;
 
     private static final String P35 = """
@@ -1738,8 +1813,8 @@ public final class PromisesTest {
     public static void main(String[] args) {
         String[][] runs = {{"1", P01}, {"2", P02}, {"3", P03}, {"4", P04}, {"4 (LIMIT)", P04_LIMIT},
             {"5, 6 (latest)", P05_06_LATEST}, {"7", P07}, {"7 (again)", P07_AGAIN}, {"7 (restored)", P07_RESTORED}, {"8", P08}, {"9", P09}, {"10", P10},
-            {"accesses", ACCESSES}, {"targets", TARGETS}, {"target down", TARGET_DOWN}, {"scans", SCANS},
-            {"shares", SHARES}, {"11", P11}, {"12", P12}, {"13", P13}, {"14", P14}, {"15", P15}, {"16", P16},
+            {"accesses", ACCESSES}, {"targets", TARGETS}, {"target down", TARGET_DOWN}, {"target ratio", TARGET_RATIO}, {"scans", SCANS}, {"shares", SHARES},
+            {"shares (exact)", SHARES_EXACT}, {"shares (frequent)", SHARES_FREQUENT}, {"11", P11}, {"12", P12}, {"13", P13}, {"14", P14}, {"15", P15}, {"16", P16},
             {"16 (leaving)", P16_LEAVING}, {"16 (edges)", P16_EDGES}, {"17", P17}, {"18", P18}, {"19", P19}, {"20", P20}, {"21", P21},
             {"22", P22}, {"23", P23}, {"24", P24}, {"25", P25}, {"26", P26}, {"27", P27}, {"28", P28}, {"29", P29},
             {"30", P30}, {"31", P31}, {"32", P32}, {"33", P33}, {"34", P34}, {"34, 35 (later)", P34_35_LATER}, {"35", P35}, {"36", P36},
