@@ -41,6 +41,11 @@ public final class PromisesTest {
             block(1, 6) = 5
             block(199, 6) = 995
             block(7, 0) = -1
+            block(7, 1) = -1
+            block(7, 2) = -1
+            block(7, 3) = -1
+            block(7, 4) = -1
+            block(7, 5) = -1
             client(0, 0) = throws.IndexOutOfBoundsException
             truncateText(1) = throws.IllegalArgumentException
             truncateText(0) = 0
@@ -579,6 +584,14 @@ public final class PromisesTest {
             list(4) = 50 30 10
             read(0, 130) = 650
             count(4) = 4
+            trace("read 0 1;read 0 3;read 0 5;read 0 7;read 0 9;") = 5
+            list(0) = 9 7 5 3
+            list(3) = 1 150
+            list(4) = 130 110 90 70
+            forget(70) = true
+            forget(90) = true
+            read(0, 110) = 550
+            count(4) = 3
             """;
 
     private static final String SCANS = """
@@ -957,8 +970,10 @@ public final class PromisesTest {
             ahead(0, 0, 1, 1, 0) = 1
             ahead(0, 199, 1, 1, 0) = 1
             toScan(0, 0) = 4
-            forget(0) = true
             forget(199) = true
+            longest(1) = 1
+            forget(0) = true
+            longest(1) = 0
             block(0, 3) = -1
             block(0, 4) = -1
             block(199, 2) = -1
@@ -1271,9 +1286,13 @@ public final class PromisesTest {
 
     private static final String P27 = """
             excess(0) = throws.IndexOutOfBoundsException
-            addClient(2) = 0
+            addClient(1) = 0
+            excess(0) = -6.0
+            read(0, 7) = 35
+            excess(0) = -5.0
+            setWeight(0, 2) = 1
             addClient(1) = 1
-            shape(2, 4) = 0
+            shape(2, 4) = 1
             excess(2) = throws.IndexOutOfBoundsException
             excess(-1) = throws.IndexOutOfBoundsException
             excess(0) = -1.3333334
