@@ -214,6 +214,16 @@ public final class BoundaryTest {
             read(1, 10) = 50
             client(0 1, 10) = 0 1
 
+            # A client has too much where it is greater by no more than 1: 2 times 2 against 3 times 1.
+            addClient(1 1) = 0 1
+            shape(3, 4) = 0
+            read(0, 10) = 50
+            read(1, 20 30) = 100 150
+            client(0 1, 10) = 0 1
+            victim(false) = 20
+            read(0, 40) = 200
+            list(0) = 40 30 10
+
             # Only its units in the upper layer count for that.
             addClient(1 1) = 0 1
             shape(2, 4) = 0
@@ -925,6 +935,53 @@ public final class BoundaryTest {
             list(1) = 60 40 10
             list(4) = 20
 
+            # ... also if this is the first client.
+            addClient(1 1) = 0 1
+            shape(4, 24) = 0
+            read(1, 10) = 50
+            read(0, 20 40 60) = 100 200 300
+            client(0 1, 10) = 1 0
+            victim(false) = 20
+            read(1, 80) = 400
+            list(0) = 80 60 40 10
+
+            # ... also if it is the unit at the place 0.
+            addClient(1 1) = 0 1
+            shape(3, 24) = 0
+            read(1, 50 50) = 250
+            read(0, 10) = 50
+            read(1, 20) = 100
+            list(0) = 20 10
+            client(0 1, 10) = 0 1
+            victim(false) = 20
+            read(0, 30) = 150
+            list(0) = 30 10
+
+            # ... but not if its owner has just its share, however often it is asked.
+            addClient(2 1 1) = 0 1 2
+            shape(4, 24) = 0
+            read(2, 50 50 60 60) = 250 250 300 300
+            read(0, 10) = 50
+            read(1, 20) = 100
+            client(0..2, 10) = 0 0 1
+            excess(0..2) = -1.0 0.0 1.0
+            victim(false true) = 10
+            victim(false true) = 10
+            read(1, 70) = 350
+            list(0) = 70 20
+
+            # ... nor if the first client is the one that has just its share.
+            addClient(1 2 1) = 0 1 2
+            shape(4, 24) = 0
+            read(2, 50 50 60 60) = 250 250 300 300
+            read(1, 10) = 50
+            read(0, 20) = 100
+            client(0..2, 10) = 0 0 1
+            victim(false true) = 10
+            victim(false true) = 10
+            read(0, 70) = 350
+            list(0) = 70 20
+
             # If there is none, it is the one with the greatest place.
             addClient(1 1) = 0 1
             shape(4, 24) = 0
@@ -1209,6 +1266,11 @@ public final class BoundaryTest {
             error("read 0 5to6;") = 0 -1
             error("read 0 5too6;") = 1 8
             error("flush<h*500>") = 1 0
+            error("head 0 5;") = 1 0
+            error("reed 0 5;") = 1 0
+            error("white 0 5 5;") = 1 0
+            error("slush 1;") = 1 0
+            error("read 0 5 do 6;") = 1 9
 
             # Numbers are maximal runs of the digits 0 to 9.
             error("read 05;") = 2 5
@@ -1751,6 +1813,21 @@ public final class BoundaryTest {
             runTrace() = 0
             errorCode() = 0
 
+            # 3: ... also of a word, and of a number.
+            text("flushes") = 7
+            truncateText(5) = 5
+            runTrace() = -1
+            errorCode() = 1
+            errorPosition() = 5
+            text("flush 400") = 9
+            truncateText(8) = 8
+            runTrace() = -1
+            errorCode() = 1
+            errorPosition() = 8
+            text("flush 1; ;") = 10
+            truncateText(8) = 8
+            runTrace() = 0
+
             # 4: the commands are done one after the other, until the CLIENT of one is not there.
             addClient(1) = 0
             trace("read 0 30;write 0 20 1;read 1 31;flush 1;read 0 32;") = 2
@@ -1766,6 +1843,11 @@ public final class BoundaryTest {
             trace("") = 0
             trace("flush 40;") = 0
             count(5 23) = 0 2
+
+            # 4: a write of a trace counts as a write, a read as a read.
+            addClient(1) = 0
+            trace("write 0 10 1;read 0 20;write 0 30 1;") = 3
+            client(0, 5 6) = 1 2
 
             # 4: LIMIT holds at the end of each write of a trace.
             addClient(1) = 0
@@ -1839,6 +1921,16 @@ public final class BoundaryTest {
             addClient(2) = 0
             client(0, 0..10) = 2 0 0 0 -1 0 0 0 0 0 0
 
+            # 7: ... also if it went by restore().
+            save(0) = void
+            addClient(3) = 0
+            shape(2, 2) = 0
+            trace("read 0 10 to 15;write 0 15 1;read 0 15;read 0 25;read 0 35;read 0 45;read 0 25;") = 12
+            client(0, 3..8) = 1 25 11 1 1 2
+            restore(0) = void
+            addClient(2) = 0
+            client(0, 0..10) = 2 0 0 0 -1 0 0 0 0 0 0
+
             # 8: the previous weight is the answer, also if it is the same.
             addClient(9) = 0
             setWeight(0, 9 1 1 9) = 9 9 1 1
@@ -1896,6 +1988,20 @@ public final class BoundaryTest {
             block(10 20 30 40, 5) = -1
             count(20) = 0
 
+            # 10: ... none of the block 0 either, and no ghosts of RECENT.
+            addClient(1) = 0
+            shape(2, 4) = 0
+            read(0, 0 20 30) = 0 100 150
+            block(0, 0..6) = 2 0 0 0 -1 3 0
+            shape(2, 4) = 3
+            block(0, 0..6) = -1 -1 -1 -1 -1 -1 0
+            block(20, 0..6) = -1 -1 -1 -1 -1 -1 100
+            list(3) =
+            count(10) = 0
+            read(0, 0) = 0
+            count(17) = 0
+            list(0) = 0
+
             # 10: the number of units that left: none of an empty cache, those of all three lists of a full one.
             addClient(1) = 0
             shape(2, 2) = 0
@@ -1948,6 +2054,17 @@ public final class BoundaryTest {
             addClient(1) = 0
             client(0, -1 11 2147483647 -2147483648) = throws.IllegalArgumentException
             client(0, 0..10) = 1 0 0 0 -1 0 0 0 0 0 0
+
+            # 12: each client has its own reads, writes, upper hits, lower hits and misses.
+            addClient(1 1) = 0 1
+            shape(2, 4) = 0
+            read(0, 10 10) = 50
+            read(1, 10 20 30) = 50 100 150
+            write(1, 20, 1) = 0
+            write(1, 20, 2) = 0
+            write(0, 30, 1) = 0
+            client(0, 5..9) = 2 1 2 0 1
+            client(1, 5..9) = 3 2 2 1 2
 
             # 12: LAST can be the block 0.
             addClient(1) = 0
@@ -2278,6 +2395,32 @@ public final class BoundaryTest {
             flush(40) = 2
             ages(0..2) = 0
 
+            # 21, 24, 25, 29, 31, 32, 33: the block 0 counts as any other.
+            addClient(1) = 0
+            write(0, 0, 7) = 0
+            read(0, 1) = 5
+            order(0) = 0
+            oldest() = 0
+            ages(0) = 1
+            rank(0) = 0
+            longest(0) = 2
+            differing() = 1
+            stale(1) = 1
+            count(12) = 1
+
+            # 21, 24, 25, 29, 31, 32, 33: the block 199 counts as any other.
+            addClient(1) = 0
+            write(0, 199, 7) = 0
+            read(0, 198) = 990
+            order(0) = 199
+            oldest() = 199
+            ages(0) = 1
+            rank(199) = 0
+            longest(0) = 2
+            differing() = 1
+            stale(1) = 1
+            count(12) = 1
+
             # 26: a list is 0 to 2, index is not negative; NONE if there are not so many.
             ownedAt(0, 0, 0) = throws.IndexOutOfBoundsException
             addClient(1 1) = 0 1
@@ -2561,6 +2704,20 @@ public final class BoundaryTest {
             ahead(0, 50, 1, 1, 0..6) = 1 0 0 0 0 0 0
             ahead(0, 30, 1, 1, 0..6) = 0 1 0 1 0 1 0
             ahead(0, 51, 3, 1, 6) = 1
+
+            # 34, 35: ... though there were hits and scans.
+            addClient(1) = 0
+            shape(2, 2) = 0
+            set(0, 2) = 4
+            read(0, 10 11 11 11 12) = 50 55 55 55 60
+            count(14 15 16 19 20 22) = 1 1 3 0 0 2
+            list(0) = 10
+            list(1) = 11
+            list(2) = 12
+            wouldBe(0, 13, 0..6) = 2 1 2 -1 -1 0 0
+            ahead(0, 13, 2, 1, 0..6) = 0 0 2 0 0 0 2
+            ahead(0, 10, 1, 1, 0..6) = 1 0 0 0 0 0 0
+            ahead(0, 12, 1, 1, 0..6) = 0 1 0 1 0 0 0
 
             # 36: the ranges of ahead().
             bestLength(0, 0, 1, 1) = throws.IndexOutOfBoundsException
