@@ -1,8 +1,13 @@
+import java.lang.reflect.InvocationTargetException;
+import java.lang.reflect.Method;
+import java.lang.reflect.Modifier;
 import java.util.ArrayDeque;
 import java.util.ArrayList;
 import java.util.Arrays;
 import java.util.Deque;
+import java.util.HashMap;
 import java.util.List;
+import java.util.Map;
 import java.util.Objects;
 import java.util.TreeSet;
 import java.util.regex.Matcher;
@@ -10,11 +15,20 @@ import java.util.regex.Pattern;
 
 /**
  * Compares the class with a second one, written after the document with the Java library's
- * collections: the same made-up calls on both, each answer and each exception side by side.
+ * collections: the same made-up calls on both, each answer and each exception side by side. No
+ * object is asked more than 512 calls: to compare all that can be seen, the calls are made again on
+ * new objects.
  */
 public final class ModelTest {
+    private static final int MOST_CALLS = 512;
+
     private static int wrong = 0;
     private static long seed = 1;
+    private static List<Call> made = new ArrayList<>();
+    private static final Map<String, Method> METHODS = new HashMap<>();
+
+    private record Call(String name, Object[] values) {
+    }
 
     public static void main(String[] args) {
         for (int run = 1; run <= 1500 && wrong < 10; run++) {
@@ -70,6 +84,7 @@ public final class ModelTest {
         reach = new int[] {8, 20, 40, 80, 200}[pick(5)];
         wrongs = chance(50) ? 0 : 3;
         lastBlock = 0;
+        made = new ArrayList<>();
         StringBuilder told = new StringBuilder();
         int clients = 1 + pick(4);
         for (int i = 0; i < clients; i++) {
@@ -226,25 +241,30 @@ public final class ModelTest {
     // ---- both answer
 
     private static Object answer(Object whom, String name, Object[] values) {
-        for (java.lang.reflect.Method method : whom.getClass().getDeclaredMethods()) {
-            if (!method.getName().equals(name) || !java.lang.reflect.Modifier.isPublic(method.getModifiers())) {
-                continue;
-            }
-            try {
-                return method.invoke(whom, values);
-            } catch (java.lang.reflect.InvocationTargetException e) {
-                return e.getCause().getClass().getName();
-            } catch (IllegalAccessException e) {
-                throw new AssertionError(e);
+        String key = whom.getClass().getName() + "." + name;
+        try {
+            return METHODS.computeIfAbsent(key, unused -> methodOf(whom.getClass(), name)).invoke(whom, values);
+        } catch (InvocationTargetException e) {
+            return e.getCause().getClass().getName();
+        } catch (IllegalAccessException e) {
+            throw new AssertionError(e);
+        }
+    }
+
+    private static Method methodOf(Class<?> kind, String name) {
+        for (Method method : kind.getDeclaredMethods()) {
+            if (method.getName().equals(name) && Modifier.isPublic(method.getModifiers())) {
+                return method;
             }
         }
         throw new AssertionError(name);
     }
 
     private static void both(int run, StringBuilder told, Object[] pair, String name, Object... values) {
-        if (wrong != 0) {
+        if (wrong != 0 || made.size() >= MOST_CALLS) {
             return;
         }
+        made.add(new Call(name, values));
         Object got = answer(pair[0], name, values);
         Object want = answer(pair[1], name, values);
         told.append(name).append(Arrays.toString(values)).append(" -> ").append(want).append('\n');
@@ -255,10 +275,10 @@ public final class ModelTest {
     }
 
     private static void compareAll(int run, StringBuilder told, Object[] pair) {
-        if (wrong != 0) {
+        if (wrong != 0 || made.size() > MOST_CALLS - 100) {
             return;
         }
-        int[] got = all((GhostLayers) pair[0]);
+        int[] got = all(new Again());
         int[] want = all((Model) pair[1]);
         for (int i = 0; i < want.length; i++) {
             if (got[i] != want[i]) {
@@ -269,20 +289,39 @@ public final class ModelTest {
         }
     }
 
-    private static int[] all(GhostLayers x) {
+    /** New objects behind the same calls. */
+    private static final class Again {
+        private GhostLayers object;
+        private int calls;
+
+        GhostLayers next() {
+            if (object == null || calls >= MOST_CALLS) {
+                object = new GhostLayers();
+                for (Call call : made) {
+                    answer(object, call.name, call.values);
+                }
+                calls = made.size();
+            }
+            calls++;
+            return object;
+        }
+    }
+
+    private static int[] all(Again x) {
         int[] row = new int[24 + 44 + 1400 + 150];
         int k = 0;
         for (int what = 0; what < 24; what++) {
-            row[k++] = x.count(what);
+            row[k++] = x.next().count(what);
         }
+        int clients = row[6];
         for (int i = 0; i < 44; i++) {
-            row[k++] = i / 11 < x.count(6) ? x.client(i / 11, i % 11) : -7;
+            row[k++] = i / 11 < clients ? x.next().client(i / 11, i % 11) : -7;
         }
         for (int i = 0; i < 1400; i++) {
-            row[k++] = x.block(i / 7, i % 7);
+            row[k++] = x.next().block(i / 7, i % 7);
         }
         for (int i = 0; i < 150; i++) {
-            row[k++] = x.at(i / 30, i % 30);
+            row[k++] = x.next().at(i / 30, i % 30);
         }
         return row;
     }

@@ -4,19 +4,24 @@ import java.util.ArrayList;
 import java.util.HashMap;
 import java.util.List;
 import java.util.Map;
+import java.util.function.Function;
 
 /**
  * Each promise of the document with ordinary calls, its edges, and wrong calls. A run starts on a
  * new object; each of its lines is a call and the answer that is due. Behind every exception, and
- * behind every call that only asks, all that can be asked must be as it was.
+ * behind every call that only asks, all that can be asked must be as it was. Whoever looks makes
+ * the calls again on new objects, so that no object is asked more than 512 calls.
  */
 public final class PromisesTest {
+    private static final int MOST_CALLS = 512;
+
     private static final String ACTS = " appendText truncateText runTrace addClient setWeight set shape read write"
             + " flush forget show undo restore ";
 
     private static int wrong = 0;
     private static int checked = 0;
     private static GhostLayers x;
+    private static List<Function<GhostLayers, Object>> made;
     private static Map<String, List<Integer>> marks;
 
     // ---- 1 to 6: a new object, traces
@@ -1859,7 +1864,7 @@ public final class PromisesTest {
             String text = row[0].replace("<40>", "read 0 5;".repeat(40)).replace("<39>", "read 0 5;".repeat(39));
             if (row[1].equals("0")) {
                 check("promise 5, 6", "text(\"" + text + "\")", String.valueOf(text.length()));
-                x.runTrace();
+                tell(y -> y.runTrace());
             } else {
                 check("promise 5, 6", "trace(\"" + text + "\")", "-1");
                 check("promise 5, 6", "count(23)", "1");
@@ -1874,6 +1879,7 @@ public final class PromisesTest {
 
     private static void startAfresh() {
         x = new GhostLayers();
+        made = new ArrayList<>();
         marks = new HashMap<>();
     }
 
@@ -1900,11 +1906,11 @@ public final class PromisesTest {
             case "text": return String.valueOf(appendAll(inner.substring(1, inner.length() - 1)));
             case "trace":
                 appendAll(inner.substring(1, inner.length() - 1));
-                return String.valueOf(x.runTrace());
+                return String.valueOf(tell(y -> y.runTrace()));
             case "fill":
-                int length = 0;
+                Object length = 0;
                 for (int i = 0; i < Integer.parseInt(inner); i++) {
-                    length = x.appendText(0x20202020);
+                    length = tell(y -> y.appendText(0x20202020));
                 }
                 return String.valueOf(length);
             case "list": return blocksOf(Integer.parseInt(inner));
@@ -1926,27 +1932,34 @@ public final class PromisesTest {
             for (int k = 0; k < 4; k++) {
                 word = word << 8 | (at + k < whole.length() ? whole.charAt(at + k) : ' ');
             }
-            length = x.appendText(word);
+            int fourBytes = word;
+            length = (Integer) tell(y -> y.appendText(fourBytes));
         }
-        int tooMany = (4 - whole.length() % 4) % 4;
-        return x.truncateText(length - tooMany);
+        int rest = length - (4 - whole.length() % 4) % 4;
+        return (Integer) tell(y -> y.truncateText(rest));
     }
 
     private static String blocksOf(int list) {
         StringBuilder blocks = new StringBuilder();
-        for (int place = 0; x.at(list, place) != GhostLayers.NONE; place++) {
-            blocks.append(place == 0 ? "" : " ").append(x.at(list, place));
+        for (int place = 0; place < 25; place++) {
+            int here = place;
+            Object block = tell(y -> y.at(list, here));
+            if (block.equals(GhostLayers.NONE)) {
+                return blocks.toString();
+            }
+            blocks.append(place == 0 ? "" : " ").append(block);
         }
-        return blocks.toString();
+        return "no end";
     }
 
     private static String shown(int list) {
-        int length = x.show(list);
+        int length = (Integer) tell(y -> y.show(list));
         StringBuilder text = new StringBuilder();
         for (int i = 0; i < length; i++) {
-            text.append((char) x.output(i));
+            int index = i;
+            text.append((char) (int) (Integer) tell(y -> y.output(index)));
         }
-        return x.output(length) == GhostLayers.NONE ? text.toString() : "more than " + length;
+        return tell(y -> y.output(length)).equals(GhostLayers.NONE) ? text.toString() : "more than " + length;
     }
 
     private static String invoke(String name, String inner) {
@@ -1960,16 +1973,46 @@ public final class PromisesTest {
                 values[i] = method.getParameterTypes()[i] == boolean.class
                         ? (Object) Boolean.parseBoolean(words[i]) : (Object) numberIn(words[i]);
             }
-            try {
-                Object got = method.invoke(x, values);
-                return method.getReturnType() == void.class ? "void" : String.valueOf(got);
-            } catch (InvocationTargetException e) {
-                return "throws." + e.getCause().getClass().getSimpleName();
-            } catch (IllegalAccessException e) {
-                return "no access";
-            }
+            return (String) tell(y -> answerOf(y, method, values));
         }
         return "no method";
+    }
+
+    private static String answerOf(GhostLayers object, Method method, Object[] values) {
+        try {
+            Object got = method.invoke(object, values);
+            return method.getReturnType() == void.class ? "void" : String.valueOf(got);
+        } catch (InvocationTargetException e) {
+            return "throws." + e.getCause().getClass().getSimpleName();
+        } catch (IllegalAccessException e) {
+            return "no access";
+        }
+    }
+
+    /** Makes a call, and notes it for those who look. */
+    private static Object tell(Function<GhostLayers, Object> call) {
+        made.add(call);
+        if (made.size() == MOST_CALLS + 1) {
+            wrong++;
+            System.out.println("more than " + MOST_CALLS + " calls");
+        }
+        return call.apply(x);
+    }
+
+    /** Objects behind the same calls; none is asked more than an object may be. */
+    private static final class Again {
+        private GhostLayers object;
+        private int calls = MOST_CALLS;
+
+        GhostLayers next() {
+            if (calls >= MOST_CALLS) {
+                object = new GhostLayers();
+                made.forEach(call -> call.apply(object));
+                calls = made.size();
+            }
+            calls++;
+            return object;
+        }
     }
 
     private static int numberIn(String word) {
@@ -1978,21 +2021,31 @@ public final class PromisesTest {
 
     private static List<Integer> all() {
         List<Integer> row = withoutActs();
-        row.add(x.count(23));
-        row.add(x.errorCode());
-        row.add(x.errorPosition());
+        Again again = new Again();
+        row.add(again.next().count(23));
+        row.add(again.next().errorCode());
+        row.add(again.next().errorPosition());
         for (int i = 0; i < 125; i++) {
-            row.add(x.output(i));
+            row.add(again.next().output(i));
         }
         row.add(textLength());
         return row;
     }
 
-    /** Cutting the text to the length that it has leaves it as it is. */
+    /** What is appended tells the length; if that is refused, what can be cut off does. */
     private static int textLength() {
-        for (int length = 600; length > 0; length--) {
+        try {
+            return new Again().next().appendText(0) - 4;
+        } catch (IllegalStateException e) {
+            return longTextLength();
+        }
+    }
+
+    private static int longTextLength() {
+        Again again = new Again();
+        for (int length = 600; length > 596; length--) {
             try {
-                return x.truncateText(length);
+                return again.next().truncateText(length);
             } catch (IllegalArgumentException e) {
                 continue;
             }
@@ -2002,17 +2055,19 @@ public final class PromisesTest {
 
     private static List<Integer> withoutActs() {
         List<Integer> row = new ArrayList<>();
+        Again again = new Again();
         for (int what = 0; what < 23; what++) {
-            row.add(x.count(what));
+            row.add(again.next().count(what));
         }
-        for (int i = 0; i < x.count(6) * 11; i++) {
-            row.add(x.client(i / 11, i % 11));
+        int clients = row.get(6);
+        for (int i = 0; i < clients * 11; i++) {
+            row.add(again.next().client(i / 11, i % 11));
         }
         for (int i = 0; i < 1400; i++) {
-            row.add(x.block(i / 7, i % 7));
+            row.add(again.next().block(i / 7, i % 7));
         }
         for (int i = 0; i < 150; i++) {
-            row.add(x.at(i / 30, i % 30));
+            row.add(again.next().at(i / 30, i % 30));
         }
         return row;
     }
