@@ -67,6 +67,9 @@ public final class FaceTest {
         due("private methods with the name of a public one", twins(), List.of());
         due("classes inside that are public, protected or not static", strayClasses(), List.of());
         due("static fields that are not final", looseStatics(), List.of());
+        due("classes are at most twelve", allClasses().size() <= 12, true);
+        due("classes with more than twenty fields", wideClasses(), List.of());
+        due("methods with more than seven parameters", wideMethods(), List.of());
         Path source = Path.of("src/main/java/GhostLayers.java");
         if (Files.exists(source)) {
             due("forbidden words in the source", forbidden(Files.readString(source)), List.of());
@@ -136,11 +139,15 @@ public final class FaceTest {
         return found;
     }
 
-    private static List<String> twins() {
-        List<String> found = new ArrayList<>();
+    private static List<Class<?>> allClasses() {
         List<Class<?>> classes = new ArrayList<>(Arrays.asList(GhostLayers.class.getDeclaredClasses()));
         classes.add(GhostLayers.class);
-        for (Class<?> one : classes) {
+        return classes;
+    }
+
+    private static List<String> twins() {
+        List<String> found = new ArrayList<>();
+        for (Class<?> one : allClasses()) {
             for (Method method : one.getDeclaredMethods()) {
                 boolean isFace = one == GhostLayers.class && Modifier.isPublic(method.getModifiers());
                 if (!isFace && FACE.contains(" " + method.getName() + "(")) {
@@ -164,12 +171,36 @@ public final class FaceTest {
 
     private static List<String> looseStatics() {
         List<String> found = new ArrayList<>();
-        List<Class<?>> classes = new ArrayList<>(Arrays.asList(GhostLayers.class.getDeclaredClasses()));
-        classes.add(GhostLayers.class);
-        for (Class<?> one : classes) {
+        for (Class<?> one : allClasses()) {
             for (Field field : one.getDeclaredFields()) {
                 if (Modifier.isStatic(field.getModifiers()) && !Modifier.isFinal(field.getModifiers())) {
                     found.add(field.getName());
+                }
+            }
+        }
+        return found;
+    }
+
+    private static List<String> wideClasses() {
+        List<String> found = new ArrayList<>();
+        for (Class<?> one : allClasses()) {
+            int fields = 0;
+            for (Field field : one.getDeclaredFields()) {
+                fields += Modifier.isStatic(field.getModifiers()) ? 0 : 1;
+            }
+            if (fields > 20) {
+                found.add(one.getSimpleName());
+            }
+        }
+        return found;
+    }
+
+    private static List<String> wideMethods() {
+        List<String> found = new ArrayList<>();
+        for (Class<?> one : allClasses()) {
+            for (Method method : one.getDeclaredMethods()) {
+                if (method.getParameterCount() > 7) {
+                    found.add(method.getName());
                 }
             }
         }
